@@ -365,6 +365,10 @@ public final class DidITurnItOff {
         return Math.max(0, Math.min(last, n));
     }
 
+    private static void copyInts(int[] from, int[] to) {
+        for (int i = 0; i < from.length && i < to.length; i++) to[i] = from[i];
+    }
+
     private static long lowest(long top, long bottom, int part) {
         long by = top;
         long rest = bottom;
@@ -703,10 +707,6 @@ public final class DidITurnItOff {
             plan.copyFrom(other.plan);
             book.copyFrom(other.book);
         }
-    }
-
-    private static void copyInts(int[] from, int[] to) {
-        for (int i = 0; i < from.length && i < to.length; i++) to[i] = from[i];
     }
 
     // A HOUSE: its WORRY, and of each heed and haste the n (below 0: haste) and its E as steps on a stack of truths.

@@ -102,6 +102,30 @@ public final class ActsAndImageTest {
         x.deed(2, 3);
         c.due("30: once more", 1, x.undo());
         c.due("30: no second", -999999, x.of(1, 0));
+        x.deed(6, 0);
+        x.row(1, 0, 3);
+        x.row(1, 3, 3);
+        x.undo();
+        x.deed(6, 0);
+        c.due("30: a new one's ROW, 0", 0, x.row(1, 0, 3));
+        c.due("30: a new one's ROW, 3", 0, x.row(1, 3, 3));
+        x.undo();
+        x.see(0, 0, false);
+        x.plan(3, 1);
+        x.book(0, 50);
+        x.image();
+        x.see(-1, 0, false);
+        x.see(0, 0, true);
+        x.plan(-1, 0);
+        x.plan(0, 0);
+        x.book(-1, 0);
+        x.book(0, 1);
+        x.hurry(20);
+        c.due("29: SEEN, PLAN and BOOK are told anew", 0 + 5 + 0, x.hurries(0) + x.done(0) + x.struck());
+        x.undo();
+        c.due("30: SEEN's row", 21, x.hurries(0));
+        c.due("30: PLAN's row", 0, x.done(0));
+        c.due("30: BOOK's row", -5, x.struck());
     }
 
     private static void imageHoldsAll() {

@@ -189,6 +189,10 @@ public final class HousesAndDeedsTest {
         holds("!(p=0&p=0)", true);
         holds("!p=1|p=1", true);
         holds("p=1&p=1&p=1|p=0&p=1", true);
+        holds("p=1&(p=1)", true);
+        holds("p=1&!(p=0)", true);
+        holds("p=1&(p=0|p=1&(p=0|p=1&(p=0|p=1)))", true);
+        holds("p=0|(p=0|p=1&(p=0|p=1&(p=0|p=0)))", false);
         holds("p=1&p=1&p=0|p=0&p=1", false);
     }
 
@@ -257,6 +261,24 @@ public final class HousesAndDeedsTest {
         c.due("5: OVEN a week later", 0, x.of(3, 7));
         x.pass(1);
         c.due("5: OVEN the day behind", 2, x.of(3, 7));
+        careByAlike();
+    }
+
+    private static void careByAlike() {
+        DidITurnItOff x = new DidITurnItOff();
+        x.deed(3, 0);
+        x.deed(6, 0);
+        x.deed(0, 0);
+        Check.house(x, "heed 20 k=0&a=1;heed 40 k=0&a=9");
+        int[] alike = {9, 10, 19, 20, 90, 99};
+        int[] iron = {8, 7, 7, 6, -1, -1};
+        int[] heeding = {8, 28, 28, 8, 48, 48};
+        for (int i = 0; i < alike.length; i++) {
+            for (int p = 0; p < 3; p++) x.set(p, 1, alike[i]);
+            c.due("5: IRON by ALIKE " + alike[i], iron[i], x.of(0, 7));
+            c.due("5: TOLD by ALIKE " + alike[i], iron[i], x.of(1, 7));
+            c.due("3: a of ALIKE " + alike[i], heeding[i], x.of(2, 7));
+        }
     }
 
     private static void row() {

@@ -95,6 +95,12 @@ public final class MorningsToComeTest {
         c.due("15: n 9", DidITurnItOff.BAD, x.renew(0, 9, 0));
         c.due("15: q -1", DidITurnItOff.BAD, x.renew(0, 1, -1));
         c.due("15: q 100", DidITurnItOff.BAD, x.renew(0, 1, 100));
+        DidITurnItOff oven = new DidITurnItOff();
+        oven.deed(4, 0);
+        oven.pass(5);
+        // MORNINGS 5 and 6: on the second it is left, ALIKE 6.
+        c.due("15: an OVEN that is left", 0, oven.renew(0, 2, 19));
+        c.due("15: an OVEN that is left, more", -5, oven.renew(0, 2, 20));
         DidITurnItOff gate = new DidITurnItOff();
         gate.deed(5, 0);
         gate.hurry(12);

@@ -47,6 +47,13 @@ public final class SeenAndOddsTest {
         c.due("17: what 2", DidITurnItOff.NONE, x.hurries(2));
         c.due("17: what -1", DidITurnItOff.NONE, x.hurries(-1));
         c.due("17: HURRY stays", 5, x.told(2));
+        DidITurnItOff oven = new DidITurnItOff();
+        oven.deed(4, 0);
+        oven.see(0, 7, true);
+        oven.see(0, 6, false);
+        c.due("17: an OVEN", 8, oven.hurries(0));
+        oven.pass(1);
+        c.due("17: behind mornings from now, not from when it was told", 0, oven.hurries(0));
     }
 
     private static void firm() {
@@ -81,6 +88,10 @@ public final class SeenAndOddsTest {
         c.due("19: left behind eleven", 1023 - 7, x.alikes(0));
         x.see(0, 1, false);
         c.due("19: left later alone", 8, x.alikes(0));
+        x.see(-1, 0, true);
+        x.see(0, 8, true);
+        c.due("19: left behind eight", 1023 - 15, x.alikes(0));
+        x.see(0, 8, false);
         x.see(0, 0, true);
         c.due("19: none", 0, x.alikes(0));
         c.due("19: deed 1", DidITurnItOff.NONE, x.alikes(1));
@@ -102,6 +113,12 @@ public final class SeenAndOddsTest {
         x.pass(1);
         c.due("20: left now, above", 1, x.odds(0, 0, 0));
         c.due("20: left now, below", 1, x.odds(0, 0, 1));
+        DidITurnItOff oven = new DidITurnItOff();
+        oven.deed(4, 9);
+        c.due("20: an OVEN, above", 1, oven.odds(0, 6, 0));
+        c.due("20: an OVEN, below", 7, oven.odds(0, 6, 1));
+        c.due("20: an OVEN on the seventh, above", 20, oven.odds(0, 7, 0));
+        c.due("20: an OVEN on the seventh, below", 21, oven.odds(0, 7, 1));
         c.due("20: deed 2", DidITurnItOff.NO, x.odds(2, 0, 0));
         c.due("20: deed -1", DidITurnItOff.NO, x.odds(-1, 0, 0));
         c.due("20: n 61", DidITurnItOff.NO, x.odds(0, 61, 0));
