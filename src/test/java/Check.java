@@ -14,6 +14,18 @@ final class Check {
         due(what, 1, isSo ? 1 : 0);
     }
 
+    /** Numbers in a row: the first that is otherwise is told. */
+    void same(String what, long[] want, long[] got) {
+        int place = 0;
+        while (place < want.length && place < got.length && want[place] == got[place]) place++;
+        due(what + ": numbers as due", want.length, got.length == want.length ? place : -1);
+    }
+
+    /** Numbers just beyond, and the least and the greatest int. */
+    static int[] beyond(int first, int last) {
+        return new int[] {first - 1, last + 1, Integer.MIN_VALUE, Integer.MAX_VALUE};
+    }
+
     static void feed(DidITurnItOff x, String text) {
         for (int i = 0; i < text.length(); i++) x.feed(text.charAt(i));
     }
