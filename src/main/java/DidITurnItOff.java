@@ -625,9 +625,10 @@ public final class DidITurnItOff {
         int size;
 
         Rows(int most) {
-            first = new int[most];
-            second = new int[most];
-            is = new boolean[most];
+            int length = Math.max(0, most);
+            first = new int[length];
+            second = new int[length];
+            is = new boolean[length];
         }
 
         private boolean has(int i) {

@@ -21,6 +21,7 @@ public final class RulesTest {
         privateNames();
         nestedClasses();
         text();
+        lengths();
         room();
         c.end("RulesTest");
     }
@@ -112,6 +113,21 @@ public final class RulesTest {
             c.holds("no " + word, !Pattern.compile(pattern).matcher(text).find());
         }
         c.holds("signs 1 to 127", text.chars().allMatch(sign -> sign > 0 && sign < 128));
+    }
+
+    /** A length for a new array is a constant, or was held at 0 or more in the lines just above. */
+    private static void lengths() throws Exception {
+        String text = Files.readString(Path.of("src/main/java/DidITurnItOff.java")).replaceAll("(?m)//.*$", "");
+        Matcher made = Pattern.compile("new \\w+\\[([^\\]]*)\\]").matcher(text);
+        int arrays = 0;
+        while (made.find()) {
+            arrays++;
+            String length = made.group(1);
+            String above = text.substring(Math.max(0, made.start() - 200), made.start());
+            boolean isConstant = length.matches("[A-Z_]+( \\+ 1)?");
+            c.holds("length " + length, isConstant || above.contains("int " + length + " = Math.max(0, "));
+        }
+        c.holds("arrays are found", arrays > 10);
     }
 
     /** Rule 12 and the one room of all calls: what is made is made in the constructor. */
